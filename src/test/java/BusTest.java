@@ -1,0 +1,26 @@
+/** Promise 12: bus. */
+public final class BusTest {
+    private static final Check check = new Check();
+
+    public static void main(String[] args) {
+        CraneSite site = new CraneSite();
+        check.refusesArgument("what -1", () -> site.bus(-1));
+        check.refusesArgument("what 4", () -> site.bus(4));
+
+        site.share(0, 1000, 1, 0, 5);
+        Check.fates(site, 2, 0, 3);
+        site.tick(1);
+        check.equals("ASK is sent", Check.bus(site), Check.row(1, 1, 0, 0));
+        site.tick(1);
+        check.equals("it is on its way", Check.bus(site), Check.row(1, 1, 0, 0));
+        site.tick(1);
+        check.equals("it came, GRANT is lost", Check.bus(site), Check.row(0, 2, 1, 1));
+        site.tick(7);
+        check.equals("BEAT is sent", Check.bus(site), Check.row(1, 3, 1, 1));
+        site.tick(3);
+        check.equals("BEAT came", Check.bus(site), Check.row(0, 3, 1, 2));
+        site.tick(987);
+        check.equals("BEATs, an ASK and a GRANT more", Check.bus(site), Check.row(1, 104, 1, 102));
+        check.end();
+    }
+}

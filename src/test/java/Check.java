@@ -1,0 +1,85 @@
+/** Counts the answers that are not the due ones, and ends the program with 1 if there were any. */
+final class Check {
+    private int wrong;
+
+    void equal(String what, int got, int want) {
+        if (got != want) {
+            fail(what + " answered " + got + ", due is " + want);
+        }
+    }
+
+    void equals(String what, int[] got, int[] want) {
+        for (int i = 0; i < want.length; i++) {
+            equal(what + " [" + i + "]", got[i], want[i]);
+        }
+    }
+
+    void refusesArgument(String what, Runnable call) {
+        refuses(what, IllegalArgumentException.class, call);
+    }
+
+    void refusesState(String what, Runnable call) {
+        refuses(what, IllegalStateException.class, call);
+    }
+
+    private void refuses(String what, Class<? extends RuntimeException> due, Runnable call) {
+        try {
+            call.run();
+        } catch (RuntimeException thrown) {
+            if (thrown.getClass() != due) {
+                fail(what + " threw " + thrown + ", due is " + due.getName());
+            }
+            return;
+        }
+        fail(what + " threw nothing, due is " + due.getName());
+    }
+
+    void fail(String text) {
+        wrong++;
+        System.out.println(text);
+    }
+
+    void end() {
+        if (wrong != 0) {
+            System.out.println(wrong + " answers are not as due");
+            System.exit(1);
+        }
+    }
+
+    /** All that look answers of a crane. */
+    static int[] look(CraneSite site, int crane) {
+        int[] seen = new int[8];
+        for (int what = 0; what < seen.length; what++) {
+            seen[what] = site.look(crane, what);
+        }
+        return seen;
+    }
+
+    /** All that pair answers of a pair. */
+    static int[] pair(CraneSite site, int pair) {
+        int[] seen = new int[5];
+        for (int what = 0; what < seen.length; what++) {
+            seen[what] = site.pair(pair, what);
+        }
+        return seen;
+    }
+
+    /** All that bus answers. */
+    static int[] bus(CraneSite site) {
+        int[] seen = new int[4];
+        for (int what = 0; what < seen.length; what++) {
+            seen[what] = site.bus(what);
+        }
+        return seen;
+    }
+
+    static int[] row(int... numbers) {
+        return numbers;
+    }
+
+    static void fates(CraneSite site, int... fates) {
+        for (int f : fates) {
+            site.fate(f);
+        }
+    }
+}
