@@ -361,16 +361,12 @@ public final class CraneSite {
             return count;
         }
 
+        /** In the arc it wants the right in any case, so one that wants it not is outside. */
         boolean wants(Arc shared) {
             if (shared.has(angle)) {
                 return true;
             }
             return slewOrder != 0 && shared.ahead(angle, slewOrder) < WANTED_WITHIN;
-        }
-
-        /** In the arc it wants the right in any case, so this asks for being outside too. */
-        boolean isDoneWith(Arc shared) {
-            return speed == 0 && !wants(shared);
         }
 
         void slew() {
@@ -395,7 +391,7 @@ public final class CraneSite {
         private boolean isBetter(int v, int than) {
             int off = Math.abs(v - slewOrder);
             int offThan = Math.abs(than - slewOrder);
-            return off < offThan || off == offThan && Math.abs(v) < Math.abs(than);
+            return off < offThan || (off == offThan && Math.abs(v) < Math.abs(than));
         }
 
         private boolean isSafe(int v) {
@@ -456,9 +452,10 @@ public final class CraneSite {
             if (!arc.exists()) {
                 return;
             }
-            if (owner == ITSELF && crane.isDoneWith(arc)) {
+            boolean wants = crane.wants(arc);
+            if (owner == ITSELF && !wants && crane.speed == 0) {
                 giveTo(NOBODY);
-            } else if (owner == NOBODY && crane.wants(arc) && time - heardAt <= MOST_SILENCE) {
+            } else if (owner == NOBODY && wants && time - heardAt <= MOST_SILENCE) {
                 giveTo(ITSELF);
             }
         }
@@ -522,20 +519,15 @@ public final class CraneSite {
             if (time % BEAT_EVERY == 0) {
                 wire.send(pair, Message.BEAT, serial);
             }
-            if (doing == NOTHING) {
-                if (crane.wants(arc)) {
-                    serial++;
-                    begin(ASKS, time, wire);
-                }
-            } else if (isOver(crane)) {
+            boolean wants = crane.wants(arc);
+            if (doing == NOTHING && wants) {
+                serial++;
+                begin(ASKS, time, wire);
+            } else if (!wants && (doing == ASKS || (doing == HAS && crane.speed == 0))) {
                 begin(WAITS, time, wire);
-            } else if (doing != HAS && time - latestAt >= REPEAT_AFTER) {
+            } else if ((doing == ASKS || doing == WAITS) && time - latestAt >= REPEAT_AFTER) {
                 sendOwn(time, wire);
             }
-        }
-
-        private boolean isOver(Crane crane) {
-            return doing == ASKS && !crane.wants(arc) || doing == HAS && crane.isDoneWith(arc);
         }
 
         void hear(Message message) {

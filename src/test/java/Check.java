@@ -8,7 +8,7 @@ final class Check {
         }
     }
 
-    void equals(String what, int[] got, int[] want) {
+    void equalRows(String what, int[] got, int[] want) {
         for (int i = 0; i < want.length; i++) {
             equal(what + " [" + i + "]", got[i], want[i]);
         }

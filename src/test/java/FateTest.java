@@ -43,7 +43,7 @@ public final class FateTest {
         site.share(0, 0, 1, 50, 1);
         Check.fates(site, 25, 0, 7);
         site.tick(30);
-        check.equals("two on their way", Check.bus(site), Check.row(2, 3, 1, 0));
+        check.equalRows("two on their way", Check.bus(site), Check.row(2, 3, 1, 0));
         site.tick(4);
         check.equal("the first has not come", site.bus(3), 0);
         site.tick(1);
@@ -53,6 +53,6 @@ public final class FateTest {
         site.tick(1);
         check.equal("7 later it has", site.bus(3), 2);
         site.tick(4);
-        check.equals("without fates it is 1", Check.bus(site), Check.row(0, 4, 1, 3));
+        check.equalRows("without fates it is 1", Check.bus(site), Check.row(0, 4, 1, 3));
     }
 }

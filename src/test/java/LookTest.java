@@ -29,10 +29,10 @@ public final class LookTest {
         site.order(2, 1, 4);
         site.order(2, 2, 7);
         site.tick(2);
-        check.equals("while it moves", Check.look(site, 2), Check.row(1, 2, 8, 14, 650, 692, 0, 1));
+        check.equalRows("while it moves", Check.look(site, 2), Check.row(1, 2, 8, 14, 650, 692, 0, 1));
         site.load(2, 693);
-        check.equals("overloaded", Check.look(site, 2), Check.row(1, 2, 8, 14, 693, 692, 1, 1));
-        check.equals("another crane", Check.look(site, 1), new int[8]);
+        check.equalRows("overloaded", Check.look(site, 2), Check.row(1, 2, 8, 14, 693, 692, 1, 1));
+        check.equalRows("another crane", Check.look(site, 1), new int[8]);
     }
 
     private static void tableBetweenPoints() {

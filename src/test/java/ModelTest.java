@@ -12,6 +12,7 @@ public final class ModelTest {
     private final Check check;
     private final Random random;
     private final int seed;
+    private final boolean slow;
     private final CraneSite site = new CraneSite();
     private final Model model = new Model();
     private int callsMade;
@@ -21,6 +22,7 @@ public final class ModelTest {
         this.check = check;
         this.seed = seed;
         this.random = new Random(seed);
+        this.slow = seed % 4 == 0;
     }
 
     public static void main(String[] args) {
@@ -45,7 +47,7 @@ public final class ModelTest {
             } else if (choice < 75) {
                 order();
             } else if (choice < 85) {
-                fate(random.nextInt(4) == 0 ? 0 : random.nextInt(33) - 1);
+                fate();
             } else if (choice < 92) {
                 int c = crane();
                 int load = random.nextInt(1010) - 4;
@@ -65,8 +67,8 @@ public final class ModelTest {
         for (int i = random.nextInt(6); i > 0; i--) {
             point();
         }
-        for (int i = random.nextInt(20); i > 0; i--) {
-            fate(random.nextInt(3) == 0 ? 0 : 1 + random.nextInt(30));
+        for (int i = random.nextInt(slow ? 105 : 20); i > 0; i--) {
+            fate();
         }
     }
 
@@ -115,7 +117,9 @@ public final class ModelTest {
         same("point", () -> site.point(c, radius, load), () -> model.point(c, radius, load));
     }
 
-    private void fate(int f) {
+    /** In slow runs the bus gets full, in the others most that is sent is lost or soon there. */
+    private void fate() {
+        int f = slow ? 31 - random.nextInt(8) : random.nextInt(4) == 0 ? 0 : random.nextInt(33) - 1;
         same("fate", () -> site.fate(f), () -> model.fate(f));
     }
 

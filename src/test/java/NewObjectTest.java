@@ -13,10 +13,10 @@ public final class NewObjectTest {
     private static void nothingIsTold() {
         CraneSite site = new CraneSite();
         for (int i = 0; i < 3; i++) {
-            check.equals("look of new crane " + i, Check.look(site, i), new int[8]);
-            check.equals("pair of new pair " + i, Check.pair(site, i), new int[5]);
+            check.equalRows("look of new crane " + i, Check.look(site, i), new int[8]);
+            check.equalRows("pair of new pair " + i, Check.pair(site, i), new int[5]);
         }
-        check.equals("bus of a new object", Check.bus(site), new int[4]);
+        check.equalRows("bus of a new object", Check.bus(site), new int[4]);
         check.equal("first fate", site.fate(1), 1);
     }
 
@@ -24,9 +24,9 @@ public final class NewObjectTest {
         CraneSite site = new CraneSite();
         check.equal("first tick", site.tick(1), 1);
         for (int i = 0; i < 3; i++) {
-            check.equals("a crane without orders stands " + i, Check.look(site, i), new int[8]);
+            check.equalRows("a crane without orders stands " + i, Check.look(site, i), new int[8]);
         }
-        check.equals("no arcs, no messages", Check.bus(site), new int[4]);
+        check.equalRows("no arcs, no messages", Check.bus(site), new int[4]);
     }
 
     private static void heardAtTickZero() {
@@ -45,8 +45,8 @@ public final class NewObjectTest {
         one.share(0, 70, 20, 0, 1);
         one.tick(3);
         CraneSite other = new CraneSite();
-        check.equals("look beside another object", Check.look(other, 0), new int[8]);
-        check.equals("pair beside another object", Check.pair(other, 0), new int[5]);
+        check.equalRows("look beside another object", Check.look(other, 0), new int[8]);
+        check.equalRows("pair beside another object", Check.pair(other, 0), new int[5]);
         check.equal("fate beside another object", other.fate(0), 1);
     }
 }

@@ -17,8 +17,8 @@ public final class OrderTest {
             check.equal("angle", site.look(1, 0), what == 0 ? 1 : 0);
             check.equal("trolley", site.look(1, 2), what == 1 ? 1 : 0);
             check.equal("hook", site.look(1, 3), what == 2 ? 1 : 0);
-            check.equals("another crane", Check.look(site, 0), new int[8]);
-            check.equals("another crane", Check.look(site, 2), new int[8]);
+            check.equalRows("another crane", Check.look(site, 0), new int[8]);
+            check.equalRows("another crane", Check.look(site, 2), new int[8]);
         }
     }
 
@@ -28,17 +28,17 @@ public final class OrderTest {
         site.order(0, 1, 5);
         site.order(0, 2, 20);
         site.tick(20);
-        check.equals("outwards and up", Check.look(site, 0), Check.row(3600 - 155, -10, 100, 400, 0, 0, 0, 0));
+        check.equalRows("outwards and up", Check.look(site, 0), Check.row(3600 - 155, -10, 100, 400, 0, 0, 0, 0));
         site.order(0, 0, 10);
         site.order(0, 1, -5);
         site.order(0, 2, -20);
         site.tick(10);
-        check.equals("inwards and down", Check.look(site, 0), Check.row(3600 - 200, 0, 50, 200, 0, 0, 0, 0));
+        check.equalRows("inwards and down", Check.look(site, 0), Check.row(3600 - 200, 0, 50, 200, 0, 0, 0, 0));
         site.order(0, 0, 0);
         site.order(0, 1, 0);
         site.order(0, 2, 0);
         site.tick(10);
-        check.equals("standing", Check.look(site, 0), Check.row(3600 - 200, 0, 50, 200, 0, 0, 0, 0));
+        check.equalRows("standing", Check.look(site, 0), Check.row(3600 - 200, 0, 50, 200, 0, 0, 0, 0));
     }
 
     private static void refuses() {
@@ -54,7 +54,7 @@ public final class OrderTest {
         check.refusesArgument("what -1", () -> site.order(0, -1, 0));
         check.refusesArgument("what 3", () -> site.order(0, 3, 0));
         site.tick(5);
-        check.equals("refused orders change nothing", Check.look(site, 0), new int[8]);
+        check.equalRows("refused orders change nothing", Check.look(site, 0), new int[8]);
         check.refusesArgument("behind a tick", () -> site.order(0, 0, 11));
     }
 }

@@ -22,22 +22,22 @@ public final class PairTest {
         site.setUp(1, 1000);
         site.setUp(2, 150);
         site.share(2, 2000, 100, 100, 100);
-        check.equals("before a tick", Check.pair(site, 2), Check.row(0, 0, 0, 0, 1));
+        check.equalRows("before a tick", Check.pair(site, 2), Check.row(0, 0, 0, 0, 1));
         site.tick(1);
-        check.equals("ASK is sent", Check.pair(site, 2), Check.row(0, 1, 1, 0, 1));
+        check.equalRows("ASK is sent", Check.pair(site, 2), Check.row(0, 1, 1, 0, 1));
         site.tick(1);
-        check.equals("GRANT is sent", Check.pair(site, 2), Check.row(2, 1, 0, 0, 1));
+        check.equalRows("GRANT is sent", Check.pair(site, 2), Check.row(2, 1, 0, 0, 1));
         site.tick(1);
-        check.equals("GRANT came", Check.pair(site, 2), Check.row(2, 2, 1, 0, 1));
+        check.equalRows("GRANT came", Check.pair(site, 2), Check.row(2, 2, 1, 0, 1));
         site.order(2, 0, 10);
         site.tick(10);
-        check.equals("it left the arc at speed", Check.pair(site, 2), Check.row(2, 2, 2, 0, 0));
+        check.equalRows("it left the arc at speed", Check.pair(site, 2), Check.row(2, 2, 2, 0, 0));
         site.order(2, 0, 0);
         site.tick(11);
-        check.equals("FREE is sent", Check.pair(site, 2), Check.row(2, 3, 3, 0, 0));
+        check.equalRows("FREE is sent", Check.pair(site, 2), Check.row(2, 3, 3, 0, 0));
         site.tick(2);
-        check.equals("DONE came", Check.pair(site, 2), Check.row(0, 0, 1, 0, 0));
-        check.equals("another pair", Check.pair(site, 1), Check.row(0, 0, 26, 0, 0));
+        check.equalRows("DONE came", Check.pair(site, 2), Check.row(0, 0, 1, 0, 0));
+        check.equalRows("another pair", Check.pair(site, 1), Check.row(0, 0, 26, 0, 0));
     }
 
     private static void inTheArcs() {

@@ -16,16 +16,16 @@ public final class TickBusTest {
         CraneSite site = new CraneSite();
         site.share(1, 1000, 1, 1000, 1);
         site.tick(9);
-        check.equals("none yet", Check.bus(site), Check.row(0, 0, 0, 0));
+        check.equalRows("none yet", Check.bus(site), Check.row(0, 0, 0, 0));
         site.tick(1);
-        check.equals("BEAT is sent", Check.bus(site), Check.row(1, 1, 0, 0));
+        check.equalRows("BEAT is sent", Check.bus(site), Check.row(1, 1, 0, 0));
         check.equal("and not heard yet", site.pair(1, 2), 10);
         site.tick(1);
-        check.equals("BEAT came", Check.bus(site), Check.row(0, 1, 0, 1));
+        check.equalRows("BEAT came", Check.bus(site), Check.row(0, 1, 0, 1));
         check.equal("now it is heard", site.pair(1, 2), 0);
         check.equal("of this pair alone", site.pair(0, 2), 11);
         site.tick(989);
-        check.equals("a hundred of them", Check.bus(site), Check.row(1, 100, 0, 99));
+        check.equalRows("a hundred of them", Check.bus(site), Check.row(1, 100, 0, 99));
     }
 
     private static CraneSite asking() {
@@ -41,9 +41,9 @@ public final class TickBusTest {
         site.tick(1);
         site.order(1, 0, 0);
         site.tick(4);
-        check.equals("ASK and FREE are on their way", Check.bus(site), Check.row(2, 2, 0, 0));
+        check.equalRows("ASK and FREE are on their way", Check.bus(site), Check.row(2, 2, 0, 0));
         site.tick(1);
-        check.equals("both are answered", Check.bus(site), Check.row(2, 4, 0, 2));
+        check.equalRows("both are answered", Check.bus(site), Check.row(2, 4, 0, 2));
         check.equal("granted, then freed", site.pair(0, 0), 0);
         site.tick(1);
         check.equal("GRANT counts no more, DONE does", site.pair(0, 1), 0);
@@ -55,7 +55,7 @@ public final class TickBusTest {
         site.tick(1);
         site.order(1, 0, 0);
         site.tick(1);
-        check.equals("GRANT is lost, FREE is not", Check.bus(site), Check.row(1, 3, 1, 1));
+        check.equalRows("GRANT is lost, FREE is not", Check.bus(site), Check.row(1, 3, 1, 1));
         site.tick(2);
         check.equal("FREE is on its way", site.pair(0, 0), 2);
         site.tick(1);
@@ -69,7 +69,7 @@ public final class TickBusTest {
         site.order(1, 0, 1);
         Check.fates(site, 0, 1);
         site.tick(1);
-        check.equals("BEAT is lost", Check.bus(site), Check.row(1, 2, 1, 0));
+        check.equalRows("BEAT is lost", Check.bus(site), Check.row(1, 2, 1, 0));
         site.tick(1);
         check.equal("ASK came", site.pair(0, 0), 2);
     }
@@ -104,17 +104,17 @@ public final class TickBusTest {
         // Those of the three that find the bus full, and of the three GRANTs behind them.
         Check.fates(site, 2, 2, 2, 5, 5, 5);
         site.tick(21);
-        check.equals("ASKs, BEATs, BEATs, ASKs", Check.bus(site), Check.row(12, 12, 0, 0));
+        check.equalRows("ASKs, BEATs, BEATs, ASKs", Check.bus(site), Check.row(12, 12, 0, 0));
         site.tick(9);
-        check.equals("the next BEATs are lost", Check.bus(site), Check.row(12, 15, 3, 0));
+        check.equalRows("the next BEATs are lost", Check.bus(site), Check.row(12, 15, 3, 0));
         site.tick(1);
-        check.equals("ASKs came and are answered", Check.bus(site), Check.row(12, 18, 3, 3));
+        check.equalRows("ASKs came and are answered", Check.bus(site), Check.row(12, 18, 3, 3));
         site.tick(4);
         check.equal("GRANT is on its way", site.pair(0, 1), 1);
         site.tick(1);
         for (int p = 0; p < 3; p++) {
             check.equal("GRANT came 5 later", site.pair(p, 1), 2);
         }
-        check.equals("three less", Check.bus(site), Check.row(9, 18, 3, 6));
+        check.equalRows("three less", Check.bus(site), Check.row(9, 18, 3, 6));
     }
 }

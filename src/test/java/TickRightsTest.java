@@ -15,6 +15,7 @@ public final class TickRightsTest {
         lateAskIsNotGranted();
         lateGrantIsNotTaken();
         lateFreeDoesNotFree();
+        lateFreeLowersNothing();
         lateDoneEndsNothing();
         freeIsSentAgain();
         grantIsRepeated();
@@ -143,7 +144,7 @@ public final class TickRightsTest {
         rights(site, "GRANT is sent", 2, 1);
         site.tick(1);
         rights(site, "GRANT came", 2, 2);
-        check.equals("two messages came", Check.bus(site), Check.row(0, 2, 0, 2));
+        check.equalRows("two messages came", Check.bus(site), Check.row(0, 2, 0, 2));
         site.order(1, 0, 0);
         site.tick(1);
         rights(site, "its speed was 1", 2, 2);
@@ -153,7 +154,7 @@ public final class TickRightsTest {
         rights(site, "DONE is sent", 0, 3);
         site.tick(1);
         rights(site, "DONE came", 0, 0);
-        check.equals("four messages came", Check.bus(site), Check.row(0, 4, 0, 4));
+        check.equalRows("four messages came", Check.bus(site), Check.row(0, 4, 0, 4));
     }
 
     private static void keeperThatHasDoesNotGrant() {
@@ -198,7 +199,7 @@ public final class TickRightsTest {
         rights(site, "freed while ASK is on its way", 0, 0);
         site.tick(7);
         rights(site, "ASK came late", 0, 0);
-        check.equals("ASK, FREE, DONE, BEAT", Check.bus(site), Check.row(0, 4, 0, 4));
+        check.equalRows("ASK, FREE, DONE, BEAT", Check.bus(site), Check.row(0, 4, 0, 4));
         check.equal("it was heard", site.pair(0, 2), 0);
         site.order(1, 0, 1);
         site.tick(2);
@@ -220,7 +221,7 @@ public final class TickRightsTest {
         rights(site, "DONE came", 0, 0);
         site.order(1, 0, 1);
         site.tick(27);
-        check.equals("only GRANT is on its way", Check.bus(site), Check.row(1, 9, 5, 3));
+        check.equalRows("only GRANT is on its way", Check.bus(site), Check.row(1, 9, 5, 3));
         rights(site, "it asks anew", 0, 1);
         site.tick(1);
         check.equal("GRANT of the first ASK came", site.bus(3), 4);
@@ -249,6 +250,31 @@ public final class TickRightsTest {
         check.equal("and is answered", site.bus(1), 11);
         site.tick(1);
         rights(site, "DONE came", 2, 2);
+    }
+
+    private static void lateFreeLowersNothing() {
+        CraneSite site = shared(2000, 250);
+        // ASK, GRANT, FREE after 30, two BEATs, FREE again, DONE; then ASK by serial 2 after 20, FREE at once.
+        Check.fates(site, 1, 1, 30, 0, 0, 1, 1, 20, 1);
+        site.order(1, 0, 1);
+        site.tick(1);
+        site.order(1, 0, 0);
+        site.tick(22);
+        rights(site, "DONE is on its way", 0, 3);
+        site.order(1, 0, 1);
+        site.tick(1);
+        rights(site, "it asks by serial 2", 0, 1);
+        site.order(1, 0, 0);
+        site.tick(3);
+        rights(site, "and freed it", 0, 0);
+        int came = site.bus(3);
+        site.tick(5);
+        check.equal("BEAT and the first FREE by serial 1 came", site.bus(3), came + 2);
+        site.tick(11);
+        rights(site, "ASK by serial 2 is on its way", 0, 0);
+        site.tick(1);
+        check.equal("it came", site.pair(0, 2), 0);
+        rights(site, "and is not granted", 0, 0);
     }
 
     private static void lateDoneEndsNothing() {
@@ -298,7 +324,7 @@ public final class TickRightsTest {
         rights(site, "GRANT is lost", 2, 1);
         site.tick(3);
         rights(site, "ASK again, GRANT again", 2, 2);
-        check.equals("ASK, GRANT, two BEATs, ASK, GRANT", Check.bus(site), Check.row(0, 6, 3, 3));
+        check.equalRows("ASK, GRANT, two BEATs, ASK, GRANT", Check.bus(site), Check.row(0, 6, 3, 3));
     }
 
     private static void rightsLetIntoTheArc() {
@@ -331,9 +357,9 @@ public final class TickRightsTest {
         site.order(0, 0, 1);
         site.order(1, 0, -1);
         site.tick(100);
-        check.equals("no messages", Check.bus(site), new int[4]);
+        check.equalRows("no messages", Check.bus(site), new int[4]);
         for (int p = 0; p < 3; p++) {
-            check.equals("nothing happens", Check.pair(site, p), Check.row(0, 0, 100, 0, 0));
+            check.equalRows("nothing happens", Check.pair(site, p), Check.row(0, 0, 100, 0, 0));
         }
     }
 }
