@@ -1,6 +1,18 @@
 /** Counts the answers that are not the due ones, and ends the program with 1 if there were any. */
 final class Check {
     private int wrong;
+    private String sentence = "";
+
+    /** Runs the test of one sentence of the document; what fails in it is told with these words. */
+    void sentence(String words, Runnable test) {
+        sentence = "\"" + words + "\": ";
+        try {
+            test.run();
+        } catch (RuntimeException thrown) {
+            fail("a call threw " + thrown);
+        }
+        sentence = "";
+    }
 
     void equal(String what, int got, int want) {
         if (got != want) {
@@ -36,7 +48,7 @@ final class Check {
 
     void fail(String text) {
         wrong++;
-        System.out.println(text);
+        System.out.println(sentence + text);
     }
 
     void end() {
@@ -44,6 +56,19 @@ final class Check {
             System.out.println(wrong + " answers are not as due");
             System.exit(1);
         }
+    }
+
+    /** All that can be seen of a site, in 43 calls. */
+    static int[] all(CraneSite site) {
+        int[] seen = new int[3 * (8 + 5) + 4];
+        int at = 0;
+        for (int i = 0; i < 3; i++) {
+            System.arraycopy(look(site, i), 0, seen, at, 8);
+            System.arraycopy(pair(site, i), 0, seen, at + 8, 5);
+            at += 13;
+        }
+        System.arraycopy(bus(site), 0, seen, at, 4);
+        return seen;
     }
 
     /** All that look answers of a crane. */
